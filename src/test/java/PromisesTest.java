@@ -130,6 +130,14 @@ public final class PromisesTest {
         faulty("road 1 1 1;\t", 1, 11);
         faulty("road 100 1 1;", 1, 5);
         faulty("123", 1, 0);
+        faulty("road 1 1 1 100;", 1, 11);
+        faulty("road 1 1 100 ;", 1, 9);
+        faulty("car 100 1 1;", 1, 4);
+        faulty("road 0 1 1;", 3, 5);
+        faulty("road 10 1 1;", 3, 5);
+        faulty("road 1 10 1;", 3, 7);
+        faulty("road 1 1 10;", 3, 9);
+        faulty("odds 0 11;", 3, 7);
         faulty("road", 2, 4);
         faulty("road  ", 2, 6);
         faulty("road 1 1 1", 2, 10);
@@ -251,6 +259,7 @@ public final class PromisesTest {
         due("13 what above", x.build(2, 3, true), BAD);
         due("13 what below", x.build(2, -1, true), BAD);
         due("13 stretch", x.build(4, 0, true), BAD);
+        due("13 hill is", x.build(1, 2, true) * 10 + x.road(1, 4), 1);
         due("13 others stay", x.road(2, 4) * 100 + x.road(2, 5) * 10 + x.road(2, 6), 100);
         due("14 was", x.polite(6), 3);
         due("14 is", x.polite(0), 6);
@@ -400,6 +409,7 @@ public final class PromisesTest {
         due("25 more", of("road 1 9 2;road 1 9 2;layby 1;slow 5 2;car never 1 1;car bold 2 1;").cost(1), 10000 - 4);
         due("26 where", x.third(0), 0);
         due("26 how many", x.third(1), 10);
+        due("26 one minute", of("road 1 0 0;slow 2 0;car one 1 1;").third(1), 1);
         due("26 what", x.third(2), BAD);
         due("26 what below", x.third(-1), BAD);
         due("26 none", of("road 1 9 0;car never 1 1;").third(1), NONE);
@@ -408,6 +418,7 @@ public final class PromisesTest {
         BehindTractor tied = of("road 1 9 0;road 1 9 2;slow 3 0;car one 9 1;car bold 1 5;");
         due("26 of several the first", tied.third(0) * 10 + tied.third(1), 2);
         due("27 of several the first", tied.layby(0) * 10 + tied.layby(1), 2);
+        due("27 least is 1 then", of("road 1 0 0;slow 2 6;car never 1 1;").layby(1), 1);
         due("27 where", x.layby(0), 0);
         due("27 how many", x.layby(1), 82);
         due("27 what", x.layby(2), BAD);
@@ -498,6 +509,11 @@ public final class PromisesTest {
         due("31 bad before full", x.see(5, 0), BAD);
         due("42 seen", x.count(0), 6);
         due("32 all", x.forget(0), 6);
+        x.see(1, 60);
+        x.see(3, 60);
+        due("33 each car by itself", x.fits(0), 4);
+        due("33 bold is behind", x.fits(3), 10);
+        x.forget(0);
         x.drive(0);
         x.see(0, 28);
         due("33 of those left", x.fits(0), 4);
@@ -569,6 +585,8 @@ public final class PromisesTest {
         due("38 size below 0", x.sheet(0, 0, -1), -14);
         due("38 bad first", x.sheet(4, 0, -1), BAD);
         due("42 nothing yet", x.count(3), NONE);
+        due("38 no cells", x.sheet(0, 0, 0), 1);
+        due("42 no cells", x.count(3), 0);
         due("38 most", x.sheet(0, 0, 40), 1);
         due("42 cells", x.count(3), 40);
         due("39 last", x.lay(0, 39, 4), 1);
@@ -622,6 +640,18 @@ public final class PromisesTest {
         due("41 index first", x.torn(), 2);
     }
 
+    private static void newRows() {
+        BehindTractor x = of("road 1 9 5;road 1 9 5;car one 4 1;");
+        for (int lane = 0; lane < 3; lane++) {
+            x.sheet(0, lane, 2);
+            x.lay(0, 0, 9);
+            x.lay(0, 1, 9);
+        }
+        x.sheet(0, 2, 2);
+        due("38 a new row", x.read(0, 2, 0, 2), 2);
+        due("38 of cells 0", x.rule(6), 0);
+    }
+
     private static void counts() {
         BehindTractor x = of(ROAD);
         due("42 miles", x.count(5), 10);
@@ -651,6 +681,7 @@ public final class PromisesTest {
         bySeed();
         images();
         sheets();
+        newRows();
         counts();
         System.out.println(wrong == 0 ? "all promises hold" : wrong + " answers are not as due");
         if (wrong != 0) {
