@@ -222,10 +222,9 @@ public final class BehindTractor {
     public int lost() {
         trial.takeFrom(live);
         trial.gone = trial.everybody();
-        trial.driveToEnd();
-        int free = trial.sumOfTimes();
+        int free = trial.driveToEnd();
         trial.takeFrom(live);
-        return sumAtEnd() - free;
+        return trial.driveToEnd() - free;
     }
 
     // ---- by odds
@@ -275,11 +274,11 @@ public final class BehindTractor {
             return BAD;
         }
         trial.takeFrom(live);
-        int asIs = sumAtEnd() - trial.times[k];
+        int asIs = trial.driveToEnd() - trial.times[k];
         trial.takeFrom(live);
         trial.kinds[k] = BOLD;
         trial.needs[k] = 1;
-        int ifBold = sumAtEnd() - trial.times[k];
+        int ifBold = trial.driveToEnd() - trial.times[k];
         return 10000 + asIs - ifBold;
     }
 
@@ -300,7 +299,7 @@ public final class BehindTractor {
         for (int least = 0; least <= MOST_CARS; least++) {
             trial.takeFrom(live);
             trial.least = least;
-            int sum = sumAtEnd();
+            int sum = trial.driveToEnd();
             if (least == 0 || sum < bestSum) {
                 best = least;
                 bestSum = sum;
@@ -520,15 +519,10 @@ public final class BehindTractor {
         return was;
     }
 
-    private int sumAtEnd() {
-        trial.driveToEnd();
-        return trial.sumOfTimes();
-    }
-
     /** The stretch where a third lane (or else a lay by) saves most, or how much it saves there. */
     private int bestPlace(boolean isLane, int what) {
         trial.takeFrom(live);
-        int asIs = sumAtEnd();
+        int asIs = trial.driveToEnd();
         int best = NONE;
         int bestSaved = 0;
         for (int i = live.at; i < live.stretches; i++) {
@@ -542,7 +536,7 @@ public final class BehindTractor {
                 trial.laybys = withBit(trial.laybys, i, true);
                 trial.least = 1;
             }
-            int saved = asIs - sumAtEnd();
+            int saved = asIs - trial.driveToEnd();
             if (saved > bestSaved) {
                 best = i;
                 bestSaved = saved;
@@ -730,10 +724,12 @@ public final class BehindTractor {
             return come;
         }
 
-        void driveToEnd() {
+        /** The sum of all times of cars, when all have come. */
+        int driveToEnd() {
             for (int i = at; i < stretches; i++) {
                 driveOne(gaps[i]);
             }
+            return sumOfTimes();
         }
     }
 
@@ -837,11 +833,11 @@ public final class BehindTractor {
         }
 
         private static boolean isLetter(int c) {
-            return within(c, 'a', 'z');
+            return c >= 'a' && c <= 'z';
         }
 
         private static boolean isFigure(int c) {
-            return within(c, '0', '9');
+            return c >= '0' && c <= '9';
         }
 
         private boolean says(String name) {
@@ -867,7 +863,8 @@ public final class BehindTractor {
                 return tellSlow();
             }
             if (says("odds")) {
-                return tellOdds();
+                oddsTold = stretchMore(oddsTold);
+                return faultFound == 0 && tellOdds(value);
             }
             if (says("hill")) {
                 hillsTold = stretchMore(hillsTold);
@@ -935,12 +932,7 @@ public final class BehindTractor {
             return stops();
         }
 
-        private boolean tellOdds() {
-            oddsTold = stretchMore(oddsTold);
-            if (faultFound != 0) {
-                return false;
-            }
-            int i = value;
+        private boolean tellOdds(int i) {
             if (!numbered(0, 10)) {
                 return false;
             }
