@@ -796,20 +796,49 @@ public final class ModelTest {
 
         private boolean callAny() {
             String name = CALL_NAMES[r.nextInt(CALL_NAMES.length)];
-            if (name.equals("text") || name.equals("feed") || name.equals("end")) {
-                if (r.nextInt(12) != 0) return true;
+            boolean rare = List.of("text", "feed", "end", "on", "drive", "read").contains(name);
+            if (rare && r.nextInt(6) != 0 || name.equals("text") && r.nextInt(10) != 0) {
+                return true;
             }
-            if ((name.equals("on") || name.equals("drive") || name.equals("read")) && r.nextInt(3) != 0) return true;
-            int[] a = {small(), small(), small(), small()};
+            int[] a = usual(name);
+            for (int i = 0; i < a.length; i++) {
+                if (r.nextInt(20) == 0) a[i] = far();
+            }
             if (name.equals("see")) seenArguments(a);
             if (name.equals("sheet") || name.equals("lay") || name.equals("read")) sheetArguments(name, a);
-            if (name.equals("drift")) a = new int[] {r.nextInt(), r.nextInt(3) - r.nextInt(2), 0, 0};
-            if (name.equals("feed")) a[0] = r.nextInt(140) - 5;
             return call(name, a);
         }
 
+        /** Arguments within their bounds, where there are any. */
+        private int[] usual(String name) {
+            int i = m.s.road.isEmpty() ? 0 : r.nextInt(m.s.road.size());
+            int k = m.s.row.isEmpty() ? 0 : r.nextInt(m.s.row.size());
+            int left = m.s.over() ? 0 : m.s.at + r.nextInt(m.s.road.size() - m.s.at);
+            switch (name) {
+                case "feed": return new int[] {r.nextInt(128), 0, 0, 0};
+                case "end": return new int[] {r.nextInt(m.tape.length() + 1), 0, 0, 0};
+                case "rule": case "count": return new int[] {r.nextInt(7), 0, 0, 0};
+                case "road": return new int[] {i, r.nextInt(7), 0, 0};
+                case "car": return new int[] {k, r.nextInt(6), 0, 0};
+                case "use": case "gap": case "sight": return new int[] {i, r.nextInt(10), 0, 0};
+                case "odd": return new int[] {i, r.nextInt(11), 0, 0};
+                case "build": return new int[] {i, r.nextInt(3), 0, 0};
+                case "polite": return new int[] {r.nextInt(7), 0, 0, 0};
+                case "teach": return new int[] {k, r.nextInt(5), 1 + r.nextInt(1 + r.nextInt(9)), 0};
+                case "drive": return new int[] {r.nextInt(10), 0, 0, 0};
+                case "tail": return new int[] {r.nextInt(9), 0, 0, 0};
+                case "where": return new int[] {k, left, r.nextInt(2), 0};
+                case "row": case "third": case "layby": case "fair": return new int[] {r.nextInt(2), 0, 0, 0};
+                case "dare": return new int[] {r.nextInt(1 + r.nextInt(100)), r.nextInt(3), 0, 0};
+                case "forget": return new int[] {r.nextInt(m.seen.size() + 1), 0, 0, 0};
+                case "fits": return new int[] {r.nextInt(4), 0, 0, 0};
+                case "drift": return new int[] {r.nextInt(), r.nextInt(2), 0, 0};
+                case "keep": case "back": return new int[] {r.nextInt(2), 0, 0, 0};
+                default: return new int[] {k, r.nextInt(2), 0, 0};
+            }
+        }
+
         private void seenArguments(int[] a) {
-            if (r.nextInt(4) == 0) call("forget", new int[] {0, 0, 0, 0});
             if (!m.s.row.isEmpty() && r.nextInt(4) != 0) {
                 List<Way> ways = m.ways();
                 a[0] = r.nextInt(m.s.row.size());
@@ -818,9 +847,9 @@ public final class ModelTest {
         }
 
         private void sheetArguments(String name, int[] a) {
-            a[0] = r.nextInt(40) == 0 ? small() : r.nextInt(4);
+            a[0] = r.nextInt(40) == 0 ? far() : r.nextInt(4);
             if (name.equals("sheet")) {
-                a[1] = r.nextInt(10) == 0 ? small() : r.nextInt(3);
+                a[1] = r.nextInt(10) == 0 ? far() : r.nextInt(3);
                 a[2] = r.nextInt(50) - 4;
             } else if (name.equals("lay")) {
                 a[1] = r.nextInt(12) - 1;
@@ -828,16 +857,15 @@ public final class ModelTest {
             } else {
                 Object s = a[0] >= 0 && a[0] < 4 ? m.sheets[a[0]] : null;
                 int lane = s instanceof byte[] ? 0 : s instanceof short[] ? 1 : 2;
-                a[1] = r.nextInt(5) == 0 ? small() : lane;
-                a[2] = r.nextInt(10) == 0 ? small() : r.nextInt(8);
-                a[3] = r.nextInt(10) == 0 ? small() : r.nextInt(4);
+                a[1] = r.nextInt(5) == 0 ? far() : lane;
+                a[2] = r.nextInt(10) == 0 ? far() : r.nextInt(8);
+                a[3] = r.nextInt(10) == 0 ? far() : r.nextInt(4);
             }
         }
 
-        private int small() {
-            int[] far = {-1, 9, 10, 11, 20, 21, 99, 100, 999, 1000, Integer.MIN_VALUE, Integer.MAX_VALUE};
-            int dice = r.nextInt(20);
-            return dice == 0 ? far[r.nextInt(far.length)] : dice < 14 ? r.nextInt(4) : r.nextInt(11);
+        private int far() {
+            int[] far = {-1, 0, 1, 2, 3, 4, 5, 6, 7, 8, 9, 10, 11, 20, 21, 99, 100, 999, 1000, Integer.MIN_VALUE, Integer.MAX_VALUE};
+            return far[r.nextInt(far.length)];
         }
 
         private boolean call(String name, int[] a) {
@@ -856,30 +884,46 @@ public final class ModelTest {
                 same &= call("feed", new int[] {text.charAt(i), 0, 0, 0});
             }
             same &= call("text", new int[] {0, 0, 0, 0});
-            return same & call("fault", new int[] {0, 0, 0, 0});
+            same &= call("fault", new int[] {0, 0, 0, 0});
+            for (int i = 0; i < m.s.road.size(); i++) {
+                if (r.nextInt(3) != 0) same &= call("odd", new int[] {i, r.nextInt(11), 0, 0});
+            }
+            for (int k = 1; k < 4; k++) {
+                same &= call("sheet", new int[] {k, r.nextInt(3), r.nextInt(12), 0});
+                for (int i = 0; i < 6; i++) same &= call("lay", new int[] {k, i, r.nextInt(10), 0});
+            }
+            return same;
         }
 
         private String someText() {
-            StringBuilder b = new StringBuilder();
-            int roads = r.nextInt(9), cars = r.nextInt(7);
             List<String> lines = new ArrayList<>();
+            int roads = Math.max(r.nextInt(9), r.nextInt(9)), cars = Math.max(r.nextInt(7), r.nextInt(7));
+            int room = 160;
             for (int i = 0; i < roads; i++) {
-                lines.add("road " + (1 + r.nextInt(9)) + " " + r.nextInt(10) + " " + r.nextInt(10) + ";");
-                if (r.nextInt(9) == 0) lines.add("hill " + i + ";");
-                if (r.nextInt(4) == 0) lines.add("odds " + i + " " + r.nextInt(11) + ";");
-                if (r.nextInt(9) == 0) lines.add("layby " + i + ";");
-                if (r.nextInt(12) == 0) lines.add("lane " + i + ";");
+                room -= add(lines, room, "road " + (1 + r.nextInt(9)) + " " + (2 + r.nextInt(8)) + " " + r.nextInt(10) + ";");
             }
             for (int k = 0; k < cars; k++) {
-                lines.add("car " + KINDS.get(r.nextInt(5)) + " " + (1 + r.nextInt(r.nextInt(9) + 1)) + " " + (1 + r.nextInt(5)) + ";");
+                String need = " " + (1 + r.nextInt(1 + r.nextInt(9))) + " ";
+                room -= add(lines, room, "car " + KINDS.get(r.nextInt(5)) + need + (1 + r.nextInt(5)) + ";");
             }
-            if (r.nextBoolean()) lines.add("slow " + (1 + r.nextInt(9)) + " " + r.nextInt(7) + ";");
+            if (r.nextBoolean()) room -= add(lines, room, "slow " + (1 + r.nextInt(9)) + " " + r.nextInt(7) + ";");
+            for (int i = 0; i < roads; i++) {
+                if (r.nextInt(2) == 0) room -= add(lines, room, "odds " + i + " " + r.nextInt(11) + ";");
+                if (r.nextInt(9) == 0) room -= add(lines, room, "hill " + i + ";");
+                if (r.nextInt(9) == 0) room -= add(lines, room, "layby " + i + ";");
+                if (r.nextInt(12) == 0) room -= add(lines, room, "lane " + i + ";");
+            }
+            if (r.nextInt(20) == 0 && !lines.isEmpty()) room -= add(lines, room, lines.get(r.nextInt(lines.size())));
             java.util.Collections.shuffle(lines, r);
-            for (String line : lines) {
-                if (b.length() + line.length() <= 160) b.append(line);
-            }
-            if (r.nextInt(3) == 0) spoil(b);
+            StringBuilder b = new StringBuilder(String.join("", lines));
+            if (r.nextInt(4) == 0) spoil(b);
             return b.toString();
+        }
+
+        private static int add(List<String> lines, int room, String line) {
+            if (line.length() > room) return 0;
+            lines.add(line);
+            return line.length();
         }
 
         private void spoil(StringBuilder b) {

@@ -171,7 +171,15 @@ public final class PromisesTest {
         faulty("road 1 1 1;odds 1 1;", 6, 20);
         faulty("layby 7;", 6, 8);
         faulty("lane 0;", 6, 7);
+        faulty("a".repeat(160), 2, 0);
+        faulty("1".repeat(160), 1, 0);
+        faulty(" ".repeat(156) + "road", 2, 160);
+        faulty(" ".repeat(154) + "hill 8", 3, 159);
         BehindTractor x = new BehindTractor();
+        told(x, "caroads");
+        due("4 bytes behind the end are not read", told(x, "car"), -13);
+        told(x, "hill 000");
+        due("4 figures behind the end are not read", told(x, "hill 0"), -16);
         told(x, "@");
         due("5 fault", x.fault(), 1);
         x.feed('r');
