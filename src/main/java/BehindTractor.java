@@ -7,16 +7,13 @@ public final class BehindTractor {
     private static final int NEVER = 0, ONE = 1, BOLD = 2, FOLLOW = 3, TIMID = 4;
     private static final int NULL_FAULT = 1, INDEX_FAULT = 2, CAST_FAULT = 3, SIZE_FAULT = 4;
 
-    private final byte[] tape = new byte[MOST_BYTES];
+    private final Tape tape = new Tape();
     private final World live = new World();
     private final World trial = new World();
-    private final Teller teller = new Teller(tape, trial);
     private final World[] images = {new World(), new World()};
     private final Sheet[] sheets = {new Sheet(), new Sheet(), new Sheet(), new Sheet()};
     private final Arrivals arrivals = new Arrivals();
     private final Chances chances = new Chances();
-    private int tapeLength;
-    private int textFault;
     private int imagesKept;
     private int tornFault;
 
@@ -29,38 +26,32 @@ public final class BehindTractor {
         if (!within(c, 0, 127)) {
             return BAD;
         }
-        if (tapeLength >= MOST_BYTES) {
-            return FULL;
-        }
-        tape[tapeLength] = (byte) c;
-        tapeLength++;
-        return tapeLength;
+        return tape.add(c) ? tape.length : FULL;
     }
 
     public int end(int n) {
-        if (!within(n, 0, tapeLength)) {
+        if (!within(n, 0, tape.length)) {
             return BAD;
         }
-        int had = tapeLength;
-        tapeLength = n;
+        int had = tape.length;
+        tape.length = n;
         return had;
     }
 
     public int text() {
-        int lines = teller.tellAll(tapeLength);
-        tapeLength = 0;
-        textFault = teller.faultFound;
-        if (textFault != 0) {
-            return -10 - teller.faultPlace;
+        int lines = tape.tellAll();
+        tape.length = 0;
+        if (tape.faultFound != 0) {
+            return -10 - tape.faultPlace;
         }
-        live.takeFrom(trial);
+        live.takeFrom(tape.told);
         arrivals.seen = 0;
         imagesKept = 0;
         return lines;
     }
 
     public int fault() {
-        return textFault;
+        return tape.faultFound;
     }
 
     public int rule(int what) {
@@ -474,7 +465,7 @@ public final class BehindTractor {
         switch (what) {
             case 0: return arrivals.seen;
             case 1: return Integer.bitCount(imagesKept);
-            case 2: return tapeLength;
+            case 2: return tape.length;
             case 3: return sheets[0].size < 0 ? NONE : sheets[0].size;
             case 4: return Integer.bitCount(live.gone);
             case 5: return live.milesLeft();
@@ -733,11 +724,11 @@ public final class BehindTractor {
         }
     }
 
-    /** Reads a text, token by token, into a world. */
-    private static final class Teller {
+    /** The bytes of a text, which are read, token by token, into a world. */
+    private static final class Tape {
         private static final int END = 0, NAME = 1, NUMBER = 2, STOP = 3;
-        final byte[] bytes;
-        final World told;
+        final byte[] bytes = new byte[MOST_BYTES];
+        final World told = new World();
         int length;
         int faultFound;
         int faultPlace;
@@ -751,14 +742,17 @@ public final class BehindTractor {
         int laybysTold;
         int lanesTold;
 
-        Teller(byte[] tape, World into) {
-            bytes = tape;
-            told = into;
+        boolean add(int c) {
+            if (length >= MOST_BYTES) {
+                return false;
+            }
+            bytes[length] = (byte) c;
+            length++;
+            return true;
         }
 
         /** How many lines were told; what a fault leaves in the world is not to be used. */
-        int tellAll(int tapeLength) {
-            length = tapeLength;
+        int tellAll() {
             told.clear();
             faultFound = 0;
             faultPlace = 0;

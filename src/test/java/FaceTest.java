@@ -60,6 +60,9 @@ public final class FaceTest {
         for (Class<?> inner : c.getDeclaredClasses()) {
             check(inner + " is static", Modifier.isStatic(inner.getModifiers()));
             check(inner + " has few fields", inner.getDeclaredFields().length <= 25);
+            for (Constructor<?> maker : inner.getDeclaredConstructors()) {
+                check(maker + " is handed nothing of the object that is being made", maker.getParameterCount() == 0);
+            }
             for (Method m : inner.getDeclaredMethods()) {
                 check(m + " has a name of its own", !names.contains(m.getName()));
             }
@@ -75,7 +78,30 @@ public final class FaceTest {
         Matcher m = Pattern.compile("\\b(throw|throws|try|catch|synchronized|assert|import|package|instanceof)\\b|->|::|\\w+Exact\\b").matcher(code);
         check("no word that the language leaves out", !m.find());
         check("ends within its own lines", !Pattern.compile("while \\(true\\)|for \\(;;").matcher(code).find());
+        check("few classes", code.split("\\bclass ").length - 1 <= 12);
+        shortMethods(code);
+        nothingMadeInCalls(code);
         check("signs", source.chars().allMatch(s -> s == '\n' || s >= 32 && s < 127));
+    }
+
+    private static void shortMethods(String code) {
+        Matcher m = Pattern.compile("(?m)^( +)(?!if|for|while|switch|else|private static final class)[a-z][\\w\\[\\]]*( [\\w\\[\\]]+)*"
+            + "\\(([^()]*)\\) \\{$").matcher(code);
+        int methods = 0;
+        while (m.find()) {
+            methods++;
+            int close = code.indexOf("\n" + m.group(1) + "}", m.end());
+            check(m.group().trim() + " is short", code.substring(m.end(), close).split("\n").length <= 60);
+            check(m.group().trim() + " takes few parameters", m.group(3).split(",").length <= 7);
+        }
+        check("methods were found", methods >= FACE.length);
+    }
+
+    /** All that a run makes is counted: it is made with the object, in its fields, and used again. */
+    private static void nothingMadeInCalls(String code) {
+        for (String line : code.split("\n")) {
+            check(line.trim() + " makes a field", !line.contains("new ") || line.matches(" +(private )?final [\\w\\[\\]]+ \\w+ = .*;"));
+        }
     }
 
     private static Object argument(Class<?> type, int i) {
